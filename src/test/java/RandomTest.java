@@ -15,7 +15,7 @@ public final class RandomTest {
   private String history = "";
 
   public static void main(String[] args) {
-    for (int i = 0; i < 250; i++) {
+    for (int i = 0; i < 150; i++) {
       RandomTest run = new RandomTest();
       run.crowd();
       run.ask();

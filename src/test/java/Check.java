@@ -37,13 +37,25 @@ final class Check {
     return x.table();
   }
 
-  static CorkageOnRemarks at(String text) {
+  /** An object to which these texts were told, each at once. */
+  static CorkageOnRemarks at(String... texts) {
     CorkageOnRemarks x = new CorkageOnRemarks();
-    int answer = tell(x, text);
-    if (answer < 1) {
-      throw new IllegalStateException("the test's own table is at fault: " + answer + " " + text);
+    for (String text : texts) {
+      int answer = tell(x, text);
+      if (answer < 1) {
+        throw new IllegalStateException("the test's own table is at fault: " + answer + " " + text);
+      }
     }
     return x;
+  }
+
+  /** A number told in so many digits. */
+  static String digits(int count, int number) {
+    StringBuilder s = new StringBuilder(Integer.toString(number));
+    while (s.length() < count) {
+      s.insert(0, '0');
+    }
+    return s.toString();
   }
 
   static void rows(CorkageOnRemarks x, int... numbers) {

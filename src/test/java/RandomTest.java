@@ -37,21 +37,14 @@ public final class RandomTest {
     CHECK.same(what + " at " + history, got, want);
   }
 
-  private static String digits(int n, int v) {
-    StringBuilder s = new StringBuilder(Integer.toString(v));
-    while (s.length() < n) {
-      s.insert(0, '0');
-    }
-    return s.toString();
-  }
-
   private void tell(String text) {
     history += text + " ";
     same("table", Check.tell(x, text), plain.tell(text));
   }
 
   private static String remark(int guests, int latest) {
-    return "r" + "rwdpch".charAt(lot(6)) + lot(10) + lot(guests) + lot(lot(2) == 0 ? 2 : 8) + digits(2, lot(latest)) + ";";
+    int topic = lot(lot(2) == 0 ? 2 : 8);
+    return "r" + "rwdpch".charAt(lot(6)) + lot(10) + lot(guests) + topic + Check.digits(2, lot(latest)) + ";";
   }
 
   // Few topics, few minutes, and moods near their ends make more meet.
@@ -60,7 +53,8 @@ public final class RandomTest {
     StringBuilder text = new StringBuilder();
     for (int g = 0; g < guests; g++) {
       int likes = lot(2) == 0 ? lot(4) : lot(256);
-      text.append("g").append(digits(3, likes)).append(digits(2, lot(3) == 0 ? 38 + lot(3) : lot(41))).append(";");
+      int mood = lot(3) == 0 ? 38 + lot(3) : lot(41);
+      text.append("g").append(Check.digits(3, likes)).append(Check.digits(2, mood)).append(";");
     }
     text.append("w").append(1 + lot(3)).append(";c").append(lot(10)).append(";");
     tell(text.toString());
@@ -216,7 +210,7 @@ public final class RandomTest {
       int mood = lot(41);
       same("mood", x.mood(a, mood), plain.guests.get(a).mood);
       plain.guests.get(a).mood = mood;
-      tell("x" + b + a + ";m" + b + digits(2, lot(41)) + ";");
+      tell("x" + b + a + ";m" + b + Check.digits(2, lot(41)) + ";");
       history += "change" + a + b + " mood" + a + "=" + mood + " ";
     }
     int waiters = 1 + lot(3);
@@ -247,7 +241,8 @@ public final class RandomTest {
         int guests = 1 + lot(lot(3) == 0 ? 10 : 3);
         switch (lot(6)) {
           case 0:
-            text.append("g").append(digits(3, lot(lot(6) == 0 ? 1000 : 256))).append(digits(2, lot(45))).append(";");
+            int likes = lot(lot(6) == 0 ? 1000 : 256);
+            text.append("g").append(Check.digits(3, likes)).append(Check.digits(2, lot(45))).append(";");
             break;
           case 1:
             text.append(remark(guests, 63));
@@ -262,7 +257,7 @@ public final class RandomTest {
             text.append("x").append(lot(guests)).append(lot(guests)).append(";");
             break;
           default:
-            text.append("m").append(lot(guests)).append(digits(2, lot(43))).append(";");
+            text.append("m").append(lot(guests)).append(Check.digits(2, lot(43))).append(";");
         }
       }
       if (lot(5) == 0 && text.length() > 0) {

@@ -25,6 +25,7 @@ public final class LanguageTest {
     members();
     inside();
     words(Files.readString(SOURCE));
+    lengths(Files.readString(SOURCE));
     CHECK.end("LanguageTest");
   }
 
@@ -44,10 +45,22 @@ public final class LanguageTest {
     }
     CHECK.same("the face", found.toString(), told.toString());
     CHECK.same("the face's methods", found.size(), 34);
+    promised(told);
+  }
+
+  // The signatures that stand with the promises are those of the face.
+  private static void promised(Set<String> face) throws IOException {
+    Set<String> told = new TreeSet<>();
+    Matcher m = Pattern.compile("(?m)^`(int|long) (\\w+)\\(([^)]*)\\)`:").matcher(Files.readString(DOCUMENT));
+    while (m.find()) {
+      told.add(m.group(1) + " " + m.group(2) + "(" + m.group(3).replaceAll("int \\w+", "int").replace(" ", "") + ")");
+    }
+    CHECK.same("the promises' methods", told.toString(), face.toString());
   }
 
   private static void members() {
     Class<?> face = CorkageOnRemarks.class;
+    CHECK.that("it is of no other type", face.getSuperclass() == Object.class && face.getInterfaces().length == 0);
     CHECK.that("final", Modifier.isFinal(face.getModifiers()) && Modifier.isPublic(face.getModifiers()));
     for (Method method : face.getDeclaredMethods()) {
       CHECK.that(method + " public or private", (method.getModifiers() & (Modifier.PUBLIC | Modifier.PRIVATE)) != 0);
@@ -85,6 +98,7 @@ public final class LanguageTest {
     for (Field field : owner.getDeclaredFields()) {
       boolean isStatic = Modifier.isStatic(field.getModifiers());
       CHECK.that(field + " is final, being static", !isStatic || Modifier.isFinal(field.getModifiers()));
+      CHECK.that(field + " is a number, being static", !isStatic || field.getType() == int.class);
       own += isStatic ? 0 : 1;
     }
     CHECK.that(owner + " has at most twenty fields", own <= 20);
@@ -101,6 +115,17 @@ public final class LanguageTest {
       CHECK.that("no " + sign, !code(source).contains(sign));
     }
     CHECK.that("signs 10 and 32 to 126 alone", source.chars().allMatch(c -> c == 10 || (c >= 32 && c < 127)));
+  }
+
+  private static void lengths(String source) {
+    Matcher m = Pattern.compile("(?m)^( +)(?!for|if|while|switch|\\})\\S[^\\n]*\\) \\{$").matcher(source);
+    int found = 0;
+    while (m.find()) {
+      String body = source.substring(m.start(), source.indexOf("\n" + m.group(1) + "}", m.end()));
+      CHECK.that(m.group().trim() + " .. has at most sixty lines", body.lines().count() <= 60);
+      found++;
+    }
+    CHECK.that("methods were found", found > 50);
   }
 
   private static String code(String source) {

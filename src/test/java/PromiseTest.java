@@ -687,7 +687,7 @@ public final class PromiseTest {
     CorkageOnRemarks back = at("g00110;g00010;rr00000;rr00000;");
     same("32 sent back", back.lots(5, 7, 1), 10);
     same("32 no moods", back.lots(5, 7, 0), 100);
-    // From seed 0 the first draws are 23, 40, 59, 15, 58, 18 .. below 60; a dull one is opened if ready by 57.
+    // From seed 0 the first draws below 60 are 23, 57, 6, 59, 49, 50; a dull one is opened if ready by 57.
     CorkageOnRemarks dull = at("g00110;g00010;rd00000;");
     int z = 0;
     int openedLots = 0;

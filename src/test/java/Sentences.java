@@ -1,3 +1,4 @@
+import java.util.Arrays;
 import java.util.function.ToLongFunction;
 
 /** Checks under headings: each heading is a promise and the words of the document that the checks below it are of. */
@@ -7,10 +8,18 @@ final class Sentences {
   private final Check check = new Check();
   private final boolean[] headed = new boolean[PROMISES + 1];
   private final String document;
+  private final boolean[] quoted;
   private String heading = "";
 
   Sentences(String document) {
-    this.document = onOneLine(document);
+    this.document = onOneLine(sentencesOf(document));
+    quoted = new boolean[this.document.length()];
+  }
+
+  // Titles, marks, the face and the signatures are no sentences; LanguageTest compares the latter two with the class.
+  private static String sentencesOf(String document) {
+    return document.replaceAll("(?s)```java.*?```", " ").replaceAll("```(text)?", " ").replaceAll("(?m)^#.*$", " ")
+        .replaceAll("==== I+\\.", " ").replaceAll("(?m)^`[^`]*`:", " ");
   }
 
   private static String onOneLine(String text) {
@@ -20,8 +29,22 @@ final class Sentences {
   /** What comes next is of this promise and these words; words that the document does not have are an error. */
   void of(int promise, String words) {
     heading = "promise " + promise + ", \"" + words + "\": ";
-    check.that(heading + "these words of the document", document.contains(onOneLine(words)));
+    check.that(heading + "these words of the document", quote(words));
     headed[promise] = true;
+  }
+
+  /** What comes next in the document promises nothing, so that there is nothing to check. */
+  void free(String words) {
+    check.that("\"" + words + "\": these words of the document", quote(words));
+  }
+
+  private boolean quote(String words) {
+    String line = onOneLine(words);
+    int first = document.indexOf(line);
+    for (int at = first; at >= 0; at = document.indexOf(line, at + 1)) {
+      Arrays.fill(quoted, at, at + line.length(), true);
+    }
+    return first >= 0;
   }
 
   void is(String what, long got, long want) {
@@ -72,7 +95,19 @@ final class Sentences {
     return s.append(" on ").append(x.on()).append(" ").append(Check.held(x)).toString();
   }
 
+  // A sentence that the document gets later is a failure until it has a heading, too.
+  private void everyWordIsQuoted() {
+    StringBuilder without = new StringBuilder();
+    for (int at = 0; at < quoted.length; at++) {
+      without.append(quoted[at] ? ' ' : document.charAt(at));
+    }
+    for (String words : without.toString().split("  +")) {
+      check.that("\"" + words.trim() + "\" has a heading", words.chars().noneMatch(Character::isLetterOrDigit));
+    }
+  }
+
   void end(String name) {
+    everyWordIsQuoted();
     for (int promise = 1; promise <= PROMISES; promise++) {
       check.that("promise " + promise + " has a heading", headed[promise]);
     }
